@@ -67,7 +67,7 @@ public final class SilentSale {
         for (int k = 0; k < MOST_IMAGES; k++) {
             images[k] = new Image();
         }
-        clerk = new Clerk(terms);
+        clerk = new Clerk();
         seating = new Seating();
         trickery = new Trickery();
         sleuth = new Sleuth();
@@ -319,12 +319,12 @@ public final class SilentSale {
     }
 
     public int hold(int bidder, int what) {
-        if (!isBidder(bidder) || !state.isSilent(bidder) || what < 0 || what > 1) {
+        int lot = roomOf(bidder);
+        if (lot == NONE || what < 0 || what > 1) {
             return NO_ANSWER;
         }
         // Whoever holds for less than it takes has nothing of the lot, and whoever holds for longer has it at the
         // same minute: so the one course in which they never speak of themselves tells all.
-        int lot = state.seat[bidder];
         int without = state.gainOf(bidder, terms);
         beginAsking();
         clerk.letHold(bidder);
@@ -370,11 +370,12 @@ public final class SilentSale {
     }
 
     public int tricks(int bidder, int what) {
-        if (!isBidder(bidder) || !state.isSilent(bidder) || what < 0 || what > MOST_BIDDERS) {
+        int lot = roomOf(bidder);
+        if (lot == NONE || what < 0 || what > MOST_BIDDERS) {
             return -4;
         }
         callClerk();
-        trickery.search(clerk, terms, state, bidder);
+        trickery.search(clerk, terms, state, bidder, lot);
         if (trickery.coins < 0) {
             return BY_NONE;
         }
@@ -382,7 +383,7 @@ public final class SilentSale {
     }
 
     public int ring(int bidders, int what) {
-        int lot = roomOf(bidders);
+        int lot = Integer.bitCount(bidders) < 2 ? NONE : roomOfAll(bidders);
         if (lot == NONE || what < 0 || what > 1) {
             return NO_ANSWER;
         }
@@ -395,14 +396,14 @@ public final class SilentSale {
         if (what == 0) {
             return with - gainsOf(bidders);
         }
-        return nobodyGains(bidders, Math.floorDiv(with, Math.max(1, Integer.bitCount(bidders)))) ? 1 : 0;
+        return nobodyHasMore(bidders, Math.floorDiv(with, Math.max(1, Integer.bitCount(bidders)))) ? 1 : 0;
     }
 
     public int breath(int bidder) {
-        if (!isBidder(bidder) || !state.isSilent(bidder)) {
+        int lot = roomOf(bidder);
+        if (lot == NONE) {
             return NONE;
         }
-        int lot = state.seat[bidder];
         callClerk();
         for (int patience = 1; patience <= MOST_MINUTES; patience++) {
             asked.copyFrom(state);
@@ -532,11 +533,13 @@ public final class SilentSale {
         asked.copyFrom(state);
     }
 
-    /** The lot by which all of the set, two at least, are silent; NONE without one. */
-    private int roomOf(int bidders) {
-        if (Integer.bitCount(bidders) < 2) {
-            return NONE;
-        }
+    /** The lot by which the bidder is silent; NONE without one. */
+    private int roomOf(int bidder) {
+        return isBidder(bidder) ? roomOfAll(1 << bidder) : NONE;
+    }
+
+    /** The lot by which all of the set are silent; NONE without one. */
+    private int roomOfAll(int bidders) {
         for (int lot = 0; lot < terms.lots; lot++) {
             if ((bidders & ~state.silentAt[lot]) == 0) {
                 return lot;
@@ -563,7 +566,7 @@ public final class SilentSale {
         return sum;
     }
 
-    private boolean nobodyGains(int bidders, int share) {
+    private boolean nobodyHasMore(int bidders, int share) {
         for (int one = 0; one < terms.bidders; one++) {
             if (isIn(one, bidders) && asked.gainOf(one, terms) > share) {
                 return false;
@@ -1440,14 +1443,10 @@ public final class SilentSale {
 
     /** Lets minutes go by in the state it is given, by the terms and the rule it serves. */
     private static final class Clerk {
-        private Terms terms;
+        private Terms terms = new Terms();
         private Rule rule = null;
         private int holder = 0;
         private long drawn = 0;
-
-        Clerk(Terms terms) {
-            this.terms = terms;
-        }
 
         /** A rule that is null stands for none. */
         void serve(Terms servedTerms, Rule servedRule) {
@@ -1564,7 +1563,7 @@ public final class SilentSale {
     /** Finds where all had best sit. */
     private static final class Seating {
         private static final int SETS = 1 << MOST_BIDDERS;
-        private static final int UNTRIED = Integer.MIN_VALUE;
+        private static final int UNTRIED = -1000000;
 
         private final State trial = new State();
         private final int[] row = new int[MOST_BIDDERS];
@@ -1671,12 +1670,8 @@ public final class SilentSale {
         /** NONE: there are no such tricks. */
         int coins = NONE;
 
-        void search(Clerk clerk, Terms terms, State now, int bidder) {
+        void search(Clerk clerk, Terms terms, State now, int bidder, int lot) {
             coins = NONE;
-            int lot = now.seat[bidder];
-            if (lot < 0 || lot >= MOST_LOTS) {
-                return;
-            }
             int others = now.silentAt[lot] & ~(1 << bidder);
             int choices = terms.tricks + 1;
             int rows = power(choices, Integer.bitCount(others));

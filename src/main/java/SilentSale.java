@@ -100,7 +100,7 @@ public final class SilentSale {
     }
 
     public int sale() {
-        int fault = draft.readFrom(tape);
+        int fault = draft.readSale(tape);
         if (fault != 0) {
             return -2 - fault;
         }
@@ -117,7 +117,7 @@ public final class SilentSale {
             return NONE;
         }
         // A slot beyond the count is nobody's yet, so that a text with a fault may spoil it.
-        int fault = rules[ruleCount].readFrom(tape);
+        int fault = rules[ruleCount].readRule(tape);
         if (fault != 0) {
             return -2 - fault;
         }
@@ -365,7 +365,7 @@ public final class SilentSale {
             return NO_ANSWER;
         }
         callClerk();
-        seating.search(clerk, terms, state);
+        seating.findSeats(clerk, terms, state);
         return what == 0 ? seating.gains : seating.best[what - 1];
     }
 
@@ -375,7 +375,7 @@ public final class SilentSale {
             return -4;
         }
         callClerk();
-        trickery.search(clerk, terms, state, bidder, lot);
+        trickery.findTricks(clerk, terms, state, bidder, lot);
         if (trickery.coins < 0) {
             return BY_NONE;
         }
@@ -432,7 +432,7 @@ public final class SilentSale {
         if (!isTold() || what < 0 || what > 1) {
             return -3;
         }
-        sleuth.search(clerk, terms, rules, ruleCount, logs);
+        sleuth.findRules(clerk, terms, rules, ruleCount, logs);
         if (what == 0) {
             return sleuth.howMany();
         }
@@ -443,7 +443,7 @@ public final class SilentSale {
         if (!isTold() || what < 0 || what > 1) {
             return NONE;
         }
-        sleuth.search(clerk, terms, rules, ruleCount, logs);
+        sleuth.findRules(clerk, terms, rules, ruleCount, logs);
         if (sleuth.howMany() == 0 || terms.lots == 0) {
             return NOT_THERE;
         }
@@ -489,7 +489,7 @@ public final class SilentSale {
         if (k < 0 || k >= MOST_IMAGES) {
             return NONE;
         }
-        images[k].keep(terms, state, logs);
+        images[k].takeFrom(terms, state, logs);
         images[k].inForce = inForce;
         images[k].x = x;
         return state.minutes;
@@ -698,7 +698,7 @@ public final class SilentSale {
             return at + 1 < length ? bytes[at + 1] : END;
         }
 
-        void pass(int many) {
+        void skip(int many) {
             goTo(Math.min(length, at + many));
         }
 
@@ -812,7 +812,7 @@ public final class SilentSale {
         }
 
         /** The first fault of the text; 0 without. */
-        int readFrom(Tape tape) {
+        int readSale(Tape tape) {
             longest = 0;
             bidders = 0;
             lots = 0;
@@ -938,12 +938,12 @@ public final class SilentSale {
         private int pieces = 0;
         private int wordsUsed = 0;
 
-        boolean mindsRooms() {
+        boolean usesRooms() {
             return isIn(ROOMS, wordsUsed);
         }
 
         /** The first fault of the text; 0 without. */
-        int readFrom(Tape tape) {
+        int readRule(Tape tape) {
             size = 0;
             pieces = 0;
             wordsUsed = 0;
@@ -987,7 +987,7 @@ public final class SilentSale {
                     depth++;
                     opened[depth] = opening;
                     waiting[depth] = 0;
-                    tape.pass(opening == NOT ? 3 : 1);
+                    tape.skip(opening == NOT ? 3 : 1);
                 }
             }
             return false;
@@ -1046,7 +1046,7 @@ public final class SilentSale {
             } else if (sign == '>') {
                 comparison = orSame ? MORE_OR_SAME : MORE;
             }
-            tape.pass(orSame ? 2 : 1);
+            tape.skip(orSame ? 2 : 1);
             return readSum(tape) && step(comparison);
         }
 
@@ -1072,7 +1072,7 @@ public final class SilentSale {
                         return true;
                     }
                 }
-                tape.pass(1);
+                tape.skip(1);
             }
             return false;
         }
@@ -1427,7 +1427,7 @@ public final class SilentSale {
         int inForce = NONE;
         int x = 0;
 
-        void keep(Terms nowTerms, State nowState, Logs nowLogs) {
+        void takeFrom(Terms nowTerms, State nowState, Logs nowLogs) {
             terms.copyFrom(nowTerms);
             state.copyFrom(nowState);
             logs.copyFrom(nowLogs);
@@ -1461,7 +1461,7 @@ public final class SilentSale {
         }
 
         boolean mindsRooms() {
-            return rule != null && rule.mindsRooms();
+            return rule != null && rule.usesRooms();
         }
 
         /** A minute, in which the forced ones speak whatever a rule says: who speaks. */
@@ -1571,7 +1571,7 @@ public final class SilentSale {
         final int[] best = new int[MOST_BIDDERS];
         int gains = 0;
 
-        void search(Clerk clerk, Terms terms, State now) {
+        void findSeats(Clerk clerk, Terms terms, State now) {
             int free = (1 << terms.bidders) - 1 & ~now.silentOnes();
             int choices = terms.lots + 1;
             int rows = power(choices, Integer.bitCount(free));
@@ -1670,7 +1670,7 @@ public final class SilentSale {
         /** NONE: there are no such tricks. */
         int coins = NONE;
 
-        void search(Clerk clerk, Terms terms, State now, int bidder, int lot) {
+        void findTricks(Clerk clerk, Terms terms, State now, int bidder, int lot) {
             coins = NONE;
             int others = now.silentAt[lot] & ~(1 << bidder);
             int choices = terms.tricks + 1;
@@ -1721,7 +1721,7 @@ public final class SilentSale {
         /** As bits: 0 for no rule, 1 more than its number for a rule. */
         int fitting = 0;
 
-        void search(Clerk clerk, Terms terms, Rule[] rules, int ruleCount, Logs logs) {
+        void findRules(Clerk clerk, Terms terms, Rule[] rules, int ruleCount, Logs logs) {
             fitting = 0;
             for (int k = 0; k <= ruleCount && k < MOST; k++) {
                 clerk.serve(terms, k == 0 ? null : rules[k - 1]);

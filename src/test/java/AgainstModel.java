@@ -52,7 +52,18 @@ public final class AgainstModel {
 
     private String blanks() { return seldom(6) ? " ".repeat(below(3)) : " "; }
 
+    /** All wait by one lot or two till they cough, so that small tricks decide. */
+    private String closeSaleText() {
+        StringBuilder t = new StringBuilder("sale 60");
+        for (int k = 0; k < 4; k++) t.append(";bidder ").append(from(20, 40)).append(' ').append(from(4, 12));
+        t.append(";lot;lot");
+        for (int b = 0; b < 4; b++) t.append(";worth ").append(b).append(" 0 ").append(from(15, 40)).append(";worth ").append(b).append(" 1 ").append(from(1, 40));
+        for (int k = 0; k < 3; k++) t.append(";trick ").append(below(6)).append(' ').append(from(1, 5));
+        return t.toString();
+    }
+
     private String saleText() {
+        if (seldom(3)) return closeSaleText();
         int top = seldom(3) ? 300 : 30;
         StringBuilder t = new StringBuilder("sale " + from(1, top));
         int bidders = seldom(8) ? below(3) : from(2, 5), lots = seldom(8) ? below(2) : from(1, 3), tricks = below(4);
@@ -112,7 +123,13 @@ public final class AgainstModel {
         return t.toString();
     }
 
-    private int bidder() { return seldom(15) ? new int[] {-2, -1, 5, 6, Integer.MIN_VALUE, Integer.MAX_VALUE}[below(6)] : below(5); }
+    private int bidder() {
+        List<Integer> silent = new ArrayList<>();
+        for (int b = 0; b < 5; b++) if (model.world.silent[b]) silent.add(b);
+        if (!silent.isEmpty() && !seldom(4)) return silent.get(below(silent.size()));
+        return drawnBidder();
+    }
+    private int drawnBidder() { return seldom(15) ? new int[] {-2, -1, 5, 6, Integer.MIN_VALUE, Integer.MAX_VALUE}[below(6)] : below(5); }
     private int lot() { return seldom(12) ? new int[] {-2, -1, 3, 4, Integer.MIN_VALUE, Integer.MAX_VALUE}[below(6)] : below(3); }
     private int what(int most) { return seldom(15) ? new int[] {-1, most + 1, Integer.MIN_VALUE, Integer.MAX_VALUE}[below(4)] : from(0, most); }
 
@@ -192,7 +209,11 @@ public final class AgainstModel {
         int rules = below(7);
         for (int k = 0; k < rules; k++) tell(seldom(10) ? spoilt(ruleText()) : ruleText(), false);
         if (seldom(2)) call("force");
-        if (!seldom(20)) tell(saleText(), true);
+        if (!seldom(20)) openSale();
+    }
+
+    private void openSale() {
+        tell(saleText(), true);
         for (int b = 0; b < 5; b++) {
             int l = seldom(2) ? 0 : below(3);
             due("sit(" + b + "," + l + ")", real.sit(b, l), model.sit(b, l));
@@ -206,9 +227,10 @@ public final class AgainstModel {
         for (int k = 0; k < steps && !wrong; k++) {
             String name = NAMES[below(NAMES.length)];
             if (seldom(4)) name = new String[] {"minute", "sit", "bell"}[below(3)];
-            if ((name.equals("seats") || name.equals("tricks")) && !seldom(4)) continue;
+            if (name.equals("seats") && !seldom(4)) continue;
             call(name);
             seeAll();
+            if (model.lots(model.world, 1) == 0 && seldom(6)) openSale();
         }
         return !wrong;
     }

@@ -235,6 +235,23 @@ public final class AgainstModel {
         return !wrong;
     }
 
+    /** One lot goes on by a rule that minds rooms, so that who sits by the others changes its course. */
+    private boolean seatsWell() {
+        String[] minding = {"speak rooms - 1 if minute % 3 = bidder % 3;speak minute - 9",
+            "speak minute + rooms * 3 - worth / 2", "speak 2 - rooms if bidder % 2 = 0;speak minute - rooms * 4", "speak 1 if minute * 2 > worth + rooms * 5"};
+        tell(minding[below(minding.length)], false);
+        due("force(0)", real.force(0), model.force(0));
+        StringBuilder t = new StringBuilder("sale " + from(5, 30));
+        for (int k = 0; k < 5; k++) t.append(";bidder ").append(seldom(2) ? 0 : from(1, 30)).append(' ').append(from(1, 12));
+        t.append(";lot;lot;lot");
+        for (int b = 0; b < 5; b++) for (int l = 0; l < 3; l++) if (!seldom(3)) t.append(";worth ").append(b).append(' ').append(l).append(' ').append(l == 1 ? from(10, 40) : below(4));
+        tell(t.toString(), true);
+        for (int b = 0; b < 5; b++) if (seldom(2)) due("sit", real.sit(b, 1), model.sit(b, 1));
+        due("bell", real.bell(1), model.bell(1));
+        for (int w = 0; w < 6; w++) due("seats(" + w + ")", real.seats(w), model.seats(w));
+        return !wrong;
+    }
+
     private static int texts(int seed, int many) {
         int wrong = 0;
         for (int k = 0; k < many; k++) {
@@ -252,6 +269,7 @@ public final class AgainstModel {
         int seed = args.length > 1 ? Integer.parseInt(args[1]) : 1;
         int wrong = texts(seed, runs * 50);
         for (int k = 0; k < runs; k++) if (!new AgainstModel(seed * 7919L + k).goes(90)) wrong++;
+        for (int k = 0; k < runs / 3; k++) if (!new AgainstModel(seed * 104729L + k).seatsWell()) wrong++;
         System.out.println("AgainstModel: " + (runs - Math.min(runs, wrong)) + " of " + runs + " runs are as due");
         if (wrong != 0) System.exit(1);
     }

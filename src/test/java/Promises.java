@@ -120,6 +120,11 @@ public final class Promises {
         t.saleFault("sale 9;bidder 0", 15, 0);
         t.saleFault("sale 9;bidder 1 1 1", 18, 0);
         t.saleFault("sale 9;lot 123456", 11, 0);
+        t.saleFault("sale 9;lotz", 7, 0);
+        t.saleFault("sale 9;alot", 7, 0);
+        t.saleFault("sale 9;lo", 7, 0);
+        t.saleFault("sale 9;lot2", 10, 0);
+        t.saleFault("sale 9lot", 6, 0);
         t.saleFault("sale 9;lot;worth 0 0 0", 17, 1);
         t.saleFault("sale 9;bidder 0 1;worth 0 0 0", 26, 1);
         t.saleFault("sale 9;bidder 0 1;lot;worth 0 0 301", 32, 1);
@@ -542,9 +547,22 @@ public final class Promises {
         u.sale.force(0);
         int[] both = {11, 0, 1, -2, -2, -2};
         for (int k = 0; k < 6; k++) { int w = k; u.dueIdle("seats(" + k + ")", () -> u.sale.seats(w), both[k]); }
+        seatsThatKeepARoomOpen();
         Bench v = new Bench("21 seats of nothing").sale("sale 9", 0);
         v.due("gains", v.sale.seats(0), 0);
         v.due("none such", v.sale.seats(1), -2);
+    }
+
+    /** 0 and 1 wait in room 0; by the rule 1 speaks once another room goes on in its 3rd minute, 0 when no other one does. */
+    private static void seatsThatKeepARoomOpen() {
+        Bench t = new Bench("21 seats that keep a room open");
+        t.sale("sale 20;bidder 99 99;bidder 99 99;bidder 0 4;bidder 0 9;lot;lot;worth 0 0 50", 2).sit(0, 0);
+        t.rule("speak rooms - 1 if bidder = 1 and minute = 2;speak 2 - rooms if bidder = 0;speak 0", 0);
+        t.sale.force(0);
+        t.sale.bell(0);
+        // 2 and 3 sit by room 1 together: 2 coughs in the 4th minute, 0 has room 0 for 3. One alone would end it at once.
+        int[] want = {47, -2, -2, 1, 1, -2};
+        for (int k = 0; k < 6; k++) { int w = k; t.dueIdle("seats(" + k + ")", () -> t.sale.seats(w), want[k]); }
     }
 
     private static void tricks() {
@@ -585,6 +603,14 @@ public final class Promises {
         u.sale.bell(0);
         u.due("less", u.sale.ring(3, 0), -3);
         u.due("it does not hold", u.sale.ring(3, 1), 0);
+        // With it 10 - 1, 4 each; without it 10 - 5 for 0. Of 9 it is 4 each, and 9 - 5 for 0.
+        for (int worth = 9; worth <= 10; worth++) {
+            Bench w = new Bench("23 ring by the skin of its teeth");
+            w.sale("sale 60;bidder 99 60;bidder 99 5;lot;worth 0 0 " + worth + ";worth 1 0 8", 1).sit(0, 0);
+            w.sale.bell(0);
+            w.due("more", w.sale.ring(3, 0), 4);
+            w.due("holds", w.sale.ring(3, 1), worth == 9 ? 1 : 0);
+        }
         Bench v = new Bench("23 ring of two rooms").sale("sale 60;bidder 9 9;bidder 9 9;bidder 9 9;bidder 9 9;lot;lot", 2).sit(0, 0, 1, 1);
         v.sale.bell(0);
         v.sale.bell(1);
@@ -738,6 +764,7 @@ public final class Promises {
             t.due("seen " + k, now[k], want);
         }
         t.due("logs are back", t.sale.ruled(0), 0);
+        logsComeBack();
         t.minutes(1);
         t.due("back again", t.sale.back(3), 2);
         t.due("the other one", t.sale.back(0), 0);
@@ -750,6 +777,19 @@ public final class Promises {
         u.due("back", u.sale.back(1), 0);
         u.due("no sale", u.sale.seats(0), -1000);
         u.due("no bidders", u.sale.count(1), 0);
+    }
+
+    private static void logsComeBack() {
+        Bench t = three("32 logs come back");
+        t.sale.log(0, 0, 21);
+        t.sale.image(2);
+        for (int[] other : new int[][] {{1, 0, 21}, {0, 1, 21}, {0, 0, 20}}) {
+            t.sale.log(NONE, 0, 0);
+            t.sale.log(other[0], other[1], other[2]);
+            t.due("another log", t.sale.ruled(0), 0);
+            t.sale.back(2);
+            t.due("the log that was", t.sale.ruled(0), 1);
+        }
     }
 
     public static void main(String[] args) {

@@ -497,6 +497,10 @@ public final class Promises {
         t.due("coins", t.sale.ends(0, 2), 0);
         t.minutes(1);
         t.dueIdle("over", () -> t.sale.ends(0, 0), -2);
+        Bench u = new Bench("18 the longest").sale("sale 300;bidder 999 300;bidder 999 300;lot;worth 0 0 300;worth 1 0 300", 1).sit(0, 0);
+        u.sale.bell(0);
+        u.due("in", u.sale.ends(0, 0), 300);
+        u.due("who", u.sale.ends(0, 1), NONE);
     }
 
     private static void hold() {
@@ -524,6 +528,12 @@ public final class Promises {
         for (int[] w : want) t.dueIdle("rests", () -> t.sale.rests(w[0], w[1], w[2], w[3]), w[4]);
         int[][] no = {{0, 0, 0, 0}, {3, 0, 0, 0}, {-1, 0, 0, 0}, {0, 3, 0, 0}, {0, -1, 0, 0}, {0, 1, 2, 0}, {0, 1, -1, 0}, {0, 1, 0, 3}, {0, 1, 0, -1}};
         for (int[] w : no) t.dueIdle("rests", () -> t.sale.rests(w[0], w[1], w[2], w[3]), NONE);
+        // Worth nothing to both: alike ones, and whoever holds more than one that holds 0.
+        t.due("how many", t.sale.rests(2, 3, 1, 0), NONE);
+        Bench v = new Bench("20 rests for nothing").sale("sale 9;bidder 0 1;bidder 0 1;lot", 1);
+        v.due("how many", v.sale.rests(1, 0, 0, 0), 28);
+        v.due("first", v.sale.rests(1, 0, 0, 1), 0);
+        v.due("second", v.sale.rests(1, 0, 0, 2), 0);
         // Worth 300 to both: each would rather hold more than the other one, as long as that can be.
         Bench u = new Bench("20 rests of the stubborn").sale("sale 9;bidder 0 1;bidder 0 1;lot;worth 0 0 300;worth 1 0 300", 1);
         u.due("how many", u.sale.rests(0, 1, 0, 0), 19);
@@ -611,6 +621,10 @@ public final class Promises {
             w.due("more", w.sale.ring(3, 0), 4);
             w.due("holds", w.sale.ring(3, 1), worth == 9 ? 1 : 0);
         }
+        // Of two to whom it is worth the same the first one stays, who coughs at once: nobody has it.
+        Bench k = new Bench("23 ring of equals").sale("sale 60;bidder 99 1;bidder 99 60;lot;worth 0 0 20;worth 1 0 20", 1).sit(0, 0);
+        k.sale.bell(0);
+        k.due("less", k.sale.ring(3, 0), -19);
         Bench v = new Bench("23 ring of two rooms").sale("sale 60;bidder 9 9;bidder 9 9;bidder 9 9;bidder 9 9;lot;lot", 2).sit(0, 0, 1, 1);
         v.sale.bell(0);
         v.sale.bell(1);
@@ -625,6 +639,12 @@ public final class Promises {
         t.dueIdle("breath(2)", () -> t.sale.breath(2), 32);
         t.dueIdle("breath(3)", () -> t.sale.breath(3), NONE);
         t.dueIdle("breath(-1)", () -> t.sale.breath(-1), NONE);
+        // The other one coughs in the 299th minute, or in the 300th, when no more patience can be had.
+        for (int other = 299; other <= 300; other++) {
+            Bench u = new Bench("24 the longest breath").sale("sale 300;bidder 999 1;bidder 999 " + other + ";lot;worth 0 0 300;worth 1 0 300", 1).sit(0, 0);
+            u.sale.bell(0);
+            u.dueIdle("breath", () -> u.sale.breath(0), other == 299 ? 300 : -2);
+        }
         t.minutes(8);
         t.dueIdle("breath(2) later", () -> t.sale.breath(2), NONE);
         t.dueIdle("breath(0) later", () -> t.sale.breath(0), 14);
@@ -694,6 +714,8 @@ public final class Promises {
         t.dueIdle("seed(-1)", () -> t.sale.seed(-1), NONE);
         t.dueIdle("seed(least)", () -> t.sale.seed(Integer.MIN_VALUE), NONE);
         t.due("x", t.sale.count(13), 9);
+        t.due("seed(0)", t.sale.seed(0), 9);
+        t.due("x", t.sale.count(13), 0);
     }
 
     private static void coughs() {

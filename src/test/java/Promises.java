@@ -195,6 +195,7 @@ public final class Promises {
         t.rule("speak1if" + "[".repeat(4) + "not[not[not not 1<2" + "]".repeat(6), 1);
         t.rule("speak1;".repeat(11) + "speak 99999", 2);
         t.rule("speak 1 if " + "[1=1 or not 2>=bidder] and ".repeat(5) + "not" + "[".repeat(9) + "1=1" + "]".repeat(9), 3);
+        t.rule("speak 1 if " + "[".repeat(10) + "1=1" + "]".repeat(10) + " and 2=2 or 3=3", 4);
     }
 
     /** One who is silent beside another one who never speaks: does the rule make them speak? */
@@ -238,6 +239,14 @@ public final class Promises {
         String low = "99999 * 99999 * 99999 * 9224";
         speaks("speak 1 if " + low + " / 7 * 7 - 4 = " + low, true);
         speaks("speak 1 if " + low + " % 7 + 4 = 0", true);
+    }
+
+    private static void bestOfTheWorthless() {
+        Bench t = new Bench("5 best of others to whom it is worth nothing").sale("sale 9;bidder 9 9;bidder 9 9;lot;worth 0 0 7", 1).sit(0, 0);
+        t.rule("speak 1 if best = 0", 0);
+        t.sale.force(0);
+        t.sale.bell(0);
+        t.due("minute", t.sale.minute(), 1);
     }
 
     private static void force() {
@@ -823,6 +832,7 @@ public final class Promises {
         rule();
         ruleFaults();
         ruleWords();
+        bestOfTheWorthless();
         force();
         bidder();
         lot();

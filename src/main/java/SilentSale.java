@@ -118,10 +118,10 @@ public final class SilentSale {
         }
         // A slot beyond the count is nobody's yet, so that a text with a fault may spoil it.
         int fault = rules[ruleCount].readRule(tape);
+        tape.cut(0);
         if (fault != 0) {
             return -2 - fault;
         }
-        tape.cut(0);
         ruleCount++;
         return ruleCount - 1;
     }

@@ -4,6 +4,8 @@ import java.util.function.IntSupplier;
 /** A sale on which calls are tried, with what is due told by hand. */
 final class Bench {
     static int wrong = 0;
+    /** Where the bytes of the tape stand among what count tells. */
+    private static final int TAPE = 14;
     final SilentSale sale = new SilentSale();
     private final String name;
 
@@ -69,9 +71,16 @@ final class Bench {
         dueIdle("sale of " + text, sale::sale, fault(place, kind));
     }
 
+    /** Of a rule with a fault the tape is empty then, too; all else stays. */
     void ruleFault(String text, int place, int kind) {
         tape(text);
-        dueIdle("rule of " + text, sale::rule, fault(place, kind));
+        int[] want = seen();
+        want[TAPE] = 0;
+        due("rule of " + text, sale.rule(), fault(place, kind));
+        if (!Arrays.equals(want, seen())) {
+            wrong++;
+            System.out.println(name + ": rule of " + text + " left the tape, or changed something");
+        }
     }
 
     Bench sit(int... lots) {

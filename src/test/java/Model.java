@@ -334,12 +334,13 @@ final class Model {
     }
     int rule() {
         if (rules.size() == 6) return -1;
+        String text = tape.toString();
+        tape.setLength(0);
         try {
-            rules.add(new Parser(tape.toString()).rule());
+            rules.add(new Parser(text).rule());
         } catch (Fault f) {
             return -2 - f.value;
         }
-        tape.setLength(0);
         return rules.size() - 1;
     }
     int force(int r) {

@@ -149,10 +149,16 @@ public final class Promises {
         t.tape("speak");
         t.dueIdle("a seventh with a fault", t.sale::rule, NONE);
         t.due("rules", t.sale.count(4), 6);
+        t.due("the tape of a seventh stays", t.sale.feed(0, 0, 0, 0, 0), 25);
     }
 
     private static void ruleFaults() {
         Bench t = new Bench("5 faults of a rule");
+        t.sale.feed(0, 0, 0, 0, 0);
+        t.due("twenty bytes that can't stand there", t.sale.rule(), Bench.fault(0, 0));
+        t.due("the tape is empty behind a fault", t.sale.feed(0, 0, 0, 0, 0), 20);
+        t.due("the tape of a sale with a fault", t.sale.sale(), Bench.fault(0, 0));
+        t.due("stays", t.sale.feed(0, 0, 0, 0, 0), 40);
         t.ruleFault("", 0, 0);
         t.ruleFault("speak", 5, 0);
         t.ruleFault("speaks 1", 0, 0);

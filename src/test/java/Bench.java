@@ -83,6 +83,12 @@ final class Bench {
         }
     }
 
+    /** What all benches of a test found; fails if one answer was wrong. */
+    static void close(String test) {
+        System.out.println(test + ": " + (wrong == 0 ? "all answers are as due" : wrong + " answers are not as due"));
+        if (wrong != 0) System.exit(1);
+    }
+
     Bench sit(int... lots) {
         for (int b = 0; b < lots.length; b++) if (lots[b] >= 0) sale.sit(b, lots[b]);
         return this;

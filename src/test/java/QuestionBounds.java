@@ -238,6 +238,18 @@ public final class QuestionBounds {
         t.dueIdle("over", () -> t.sale.hold(0, 0), -1000);
     }
 
+    private static void holdLeavesNothing() {
+        Bench t = room("HOLD: by what is asked nothing changes", null, "sale 9;bidder 99 99;bidder 99 99;lot;worth 0 0 3;worth 1 0 6");
+        t.dueIdle("it would be a loss", () -> t.sale.hold(0, 0), 0);
+        t.dueIdle("who has it", () -> t.sale.ends(0, 1), 1);
+        t.dueIdle("it would be a loss", () -> t.sale.hold(0, 1), 0);
+        t.dueIdle("who has it", () -> t.sale.ahead(0, 4, 0), 1);
+        for (int k = 0; k < 4; k++) {
+            t.dueIdle("hold", () -> t.sale.hold(0, 0), 0);
+            t.due("minute", t.sale.minute(), k == 3 ? 1 : 0);
+        }
+    }
+
     private static void holdWithoutThese() {
         Bench t = told("HOLD of a SILENT BIDDER: -1000 without these", "sale 9;bidder 9 1;bidder 9 9;bidder 9 9;lot;worth 1 0 9;worth 2 0 9", 1);
         t.dueIdle("sits nowhere", () -> t.sale.hold(1, 0), -1000);
@@ -875,6 +887,7 @@ public final class QuestionBounds {
         holdOfSeveralTheLeast();
         holdWhateverARuleSays();
         holdSinceTheBell();
+        holdLeavesNothing();
         holdWithoutThese();
         restsOfTens();
         restsOfUnlike();
